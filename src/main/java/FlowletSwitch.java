@@ -39,6 +39,7 @@ public final class FlowletSwitch {
 
     private static final int LOAD_OF_ONE_LEVEL = 64;
     private static final int DECAY_PERIOD = 10;
+    private static final int LOW_31_BITS = 0x7fffffff;
     private static final int DROPPED = 10;
     private static final int TRACE_ERROR = -10;
     private static final int NO_ERROR = -1;
@@ -719,7 +720,7 @@ public final class FlowletSwitch {
 
         // The wrap-around of int loses only multiples of 2^32, which the modulus 2^31 divides.
         int nextGenerator() {
-            return (1103515245 * generator + 12345) & Integer.MAX_VALUE;
+            return (1103515245 * generator + 12345) & LOW_31_BITS;
         }
 
         int sendPacket(int flow, int size) {

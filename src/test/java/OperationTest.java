@@ -62,8 +62,9 @@ final class OperationTest {
                 + "isActive(3) = 1; advance(1) = 115; isActive(3) = 0");
         Script.run("11: several rounds in one call", "setDetection(1) = 0; setGap(1) = 20; send(0,1) = 0; advance(2) = 2;"
                 + "isActive(3) = 0; ageBit(3) = NONE; undo() = 3; advance(1) = 1; isActive(3) = 1; ageBit(3) = 1");
-        Script.run("11: the last entry ages", "setDetection(1) = 0; entryOf(12) = 7; send(12,1) = 0; advance(20) = 20;"
-                + "ageBit(7) = 1; advance(20) = 40; ageBit(7) = NONE");
+        Script.run("11: the first and the last entry age", "setDetection(1) = 0; entryOf(3) = 0; entryOf(12) = 7;"
+                + "send(3,1) = 0; send(12,1) = 0; advance(20) = 20; ageBit(0) = 1; ageBit(7) = 1; advance(20) = 40;"
+                + "ageBit(0) = NONE; ageBit(7) = NONE");
     }
 
     private static void send() {

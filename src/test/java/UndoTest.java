@@ -50,6 +50,10 @@ final class UndoTest {
             + "setRate(0,2) = 1; setDelay(1,0) = 5; setRemoteLevel(2,0) = 3; send(1,1) = 1; pathChanges(1) = 5";
 
     private static void undoBringsTheWholeStateBack() {
+        Script.run("38: the first and the last entry and flow", "send(3,1) = 0; undo() = 0; isActive(0) = 0;"
+                + "entryPath(0) = NONE; idleTime(0) = NONE; flowlets(3) = 0; send(12,1) = 0; undo() = 0; isActive(7) = 0;"
+                + "entryPath(7) = NONE; send(0,1) = 0; undo() = 0; flowlets(0) = 0; lastArrival(0) = NONE; send(15,1) = 0;"
+                + "undo() = 0; flowlets(15) = 0; lastArrival(15) = NONE");
         Script.run("38: seen directly", EARLIER + SEEN_EARLIER);
         Script.run("38: seen after undo", EARLIER + LATER + "undo() = 7; undo() = 6; undo() = 5; undo() = 4; undo() = 3;"
                 + "undo() = 2; undo() = 1;" + SEEN_EARLIER);
