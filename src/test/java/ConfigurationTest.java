@@ -125,7 +125,7 @@ final class ConfigurationTest {
                 + "setShift(-1) = INVALID_ARGUMENT; undo() = ILLEGAL_STATE; setShift(2) = 2");
     }
 
-    // From 1 the generator becomes 1103527590, that is 16838 * 65536 + 12252; from 0 it becomes 12345.
+    // From 1 the generator becomes 1103527590, that is 16838 * 65536 + 32422; from 0 it becomes 12345.
     private static void setGenerator() {
         Script.run("10", "setMode(3) = 1; nextPath(0) = 2; setGenerator(0) = 1; nextPath(0) = 0; send(0,1) = 0;"
                 + "setGenerator(2147483647) = 12345; setGenerator(1) = 2147483647; send(1,1) = 2;"

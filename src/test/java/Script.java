@@ -1,17 +1,21 @@
 import java.lang.reflect.Field;
+import java.lang.reflect.InvocationTargetException;
 import java.lang.reflect.Method;
+import java.util.ArrayList;
+import java.util.List;
 import java.util.regex.Matcher;
 import java.util.regex.Pattern;
 
 /**
  * Runs calls written as in the document's examples, "send(0,100) = 0; now() = 0", on a new object.
  *
- * A due answer is a number or the name of a constant. text("f1,64;") appends the characters of a
- * text one by one and answers as the last appendCharacter does.
+ * A due answer is a number, the name of a constant, or ? if any answer will do. text("f1,64;") appends
+ * the characters of a text one by one and answers as the last appendCharacter does. "7x undo() = ?"
+ * makes a call seven times.
  */
 final class Script {
     private static final Pattern STEP =
-            Pattern.compile("\\s*(\\w+)\\((\"[^\"]*\"|[^)\"]*)\\)\\s*=\\s*(-?\\w+)\\s*(?:;|$)");
+            Pattern.compile("\\s*(?:(\\d+)x )?(\\w+)\\((\"[^\"]*\"|[^)\"]*)\\)\\s*=\\s*(-?\\w+|\\?)\\s*(?:;|$)");
 
     private static int right = 0;
     private static int wrong = 0;
@@ -20,26 +24,13 @@ final class Script {
     }
 
     static void run(String name, String steps) {
-        FlowletSwitch object = new FlowletSwitch();
-        Matcher step = STEP.matcher(steps);
-        int end = 0;
-        while (end < steps.length() && !steps.substring(end).isBlank()) {
-            if (!step.find(end) || step.start() != end) {
-                throw new IllegalStateException(name + ": can't read: " + steps.substring(end));
-            }
-            end = step.end();
-            String call = step.group(1) + "(" + step.group(2) + ")";
-            due(name, call, call(object, step.group(1), step.group(2)), value(step.group(3)));
+        for (Answer answer : answers(new FlowletSwitch(), steps)) {
+            count(name, answer);
         }
     }
 
     static void due(String name, String call, int got, int want) {
-        if (got == want) {
-            right++;
-        } else {
-            wrong++;
-            System.out.println(name + ": " + call + " answered " + got + ", due is " + want);
-        }
+        count(name, new Answer(call, Integer.toString(got), Integer.toString(want)));
     }
 
     static void holds(String name, boolean condition) {
@@ -53,9 +44,53 @@ final class Script {
         }
     }
 
-    static int call(FlowletSwitch object, String method, String arguments) {
+    static void count(String name, Answer answer) {
+        if (answer.isDue()) {
+            right++;
+        } else {
+            wrong++;
+            System.out.println(name + ": " + answer);
+        }
+    }
+
+    /** What a call answered, and what it had to. */
+    record Answer(String call, String got, String want) {
+        boolean isDue() {
+            return want.equals("?") || want.equals(got);
+        }
+
+        @Override
+        public String toString() {
+            return call + " answered " + got + ", due is " + want;
+        }
+    }
+
+    /** The answers of an object, whose class need not be FlowletSwitch itself, to the calls of a script. */
+    static List<Answer> answers(Object object, String steps) {
+        List<Answer> answers = new ArrayList<>();
+        Matcher step = STEP.matcher(steps);
+        int end = 0;
+        while (end < steps.length() && !steps.substring(end).isBlank()) {
+            if (!step.find(end) || step.start() != end) {
+                throw new IllegalStateException("can't read: " + steps.substring(end));
+            }
+            end = step.end();
+            int times = step.group(1) == null ? 1 : Integer.parseInt(step.group(1));
+            for (int time = 0; time < times; time++) {
+                answers.add(new Answer(step.group(2) + "(" + step.group(3) + ")",
+                        call(object, step.group(2), step.group(3)), value(step.group(4))));
+            }
+        }
+        return answers;
+    }
+
+    private static String call(Object object, String method, String arguments) {
         if (method.equals("text")) {
-            return append(object, arguments.substring(1, arguments.length() - 1));
+            String answer = "nothing";
+            for (char character : arguments.substring(1, arguments.length() - 1).toCharArray()) {
+                answer = call(object, "appendCharacter", Integer.toString(character));
+            }
+            return answer;
         }
         String[] words = arguments.isBlank() ? new String[0] : arguments.split(",");
         Class<?>[] types = new Class<?>[words.length];
@@ -65,8 +100,10 @@ final class Script {
             values[i] = Integer.parseInt(words[i].trim());
         }
         try {
-            Method found = FlowletSwitch.class.getMethod(method, types);
-            return (Integer) found.invoke(object, values);
+            Method found = object.getClass().getMethod(method, types);
+            return found.invoke(object, values).toString();
+        } catch (InvocationTargetException e) {
+            return e.getCause().toString();
         } catch (ReflectiveOperationException e) {
             throw new IllegalStateException(method + "(" + arguments + ")", e);
         }
@@ -80,13 +117,13 @@ final class Script {
         return answer;
     }
 
-    private static int value(String word) {
-        if (Character.isDigit(word.charAt(word.length() - 1))) {
-            return Integer.parseInt(word);
+    private static String value(String word) {
+        if (word.equals("?") || Character.isDigit(word.charAt(word.length() - 1))) {
+            return word;
         }
         try {
             Field constant = FlowletSwitch.class.getField(word);
-            return constant.getInt(null);
+            return Integer.toString(constant.getInt(null));
         } catch (ReflectiveOperationException e) {
             throw new IllegalStateException("no such constant: " + word, e);
         }
