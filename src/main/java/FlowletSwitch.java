@@ -356,6 +356,11 @@ public final class FlowletSwitch {
         return least <= value && value <= most;
     }
 
+    // No call can bring a divisor below 1 here; it is tested all the same, so that no division can fail.
+    private static int remainder(int value, int divisor) {
+        return divisor < 1 ? 0 : value % divisor;
+    }
+
     private static boolean isFlow(int flow) {
         return isBetween(flow, 0, FLOWS - 1);
     }
@@ -432,7 +437,7 @@ public final class FlowletSwitch {
         }
 
         int ticksToTransmit(int size) {
-            return (size + rate - 1) / rate;
+            return rate < 1 ? 0 : (size + rate - 1) / rate;
         }
 
         int ticksToArrive(int time, int size) {
@@ -603,6 +608,11 @@ public final class FlowletSwitch {
             return isBetween(path, 0, pathCount - 1);
         }
 
+        // The choice of a path gives no other numbers than those of paths; the test is for the index alone.
+        Path pathAt(int number) {
+            return paths[hasPath(number) ? number : 0];
+        }
+
         boolean hasEntry(int entry) {
             return isBetween(entry, 0, entryCount - 1);
         }
@@ -612,7 +622,7 @@ public final class FlowletSwitch {
         }
 
         int entryNumber(int flow) {
-            return (7 * flow + 3) % entryCount;
+            return remainder(7 * flow + 3, entryCount);
         }
 
         int countFlowsOfEntry(int entry) {
@@ -666,7 +676,7 @@ public final class FlowletSwitch {
                 if (time % DECAY_PERIOD == 0) {
                     decayLoads();
                 }
-                if (detection == AGE_BITS && time % gap == 0) {
+                if (detection == AGE_BITS && remainder(time, gap) == 0) {
                     ageEntries();
                 }
             }
@@ -690,7 +700,7 @@ public final class FlowletSwitch {
 
         int pathFor(int flow) {
             if (mode == BY_FLOW) {
-                return flow % pathCount;
+                return remainder(flow, pathCount);
             }
             if (mode == BY_PACKET) {
                 return turn;
@@ -715,7 +725,7 @@ public final class FlowletSwitch {
         }
 
         int randomPath() {
-            return nextGenerator() / 65536 % pathCount;
+            return remainder(nextGenerator() / 65536, pathCount);
         }
 
         // The wrap-around of int loses only multiples of 2^32, which the modulus 2^31 divides.
@@ -726,7 +736,7 @@ public final class FlowletSwitch {
         int sendPacket(int flow, int size) {
             int chosen = pathFor(flow);
             noteChoice(flow, chosen);
-            Path path = paths[chosen];
+            Path path = pathAt(chosen);
             if (path.dropsAt(time)) {
                 path.dropCount++;
                 return DROPPED + chosen;
@@ -741,7 +751,7 @@ public final class FlowletSwitch {
                 noteInTable(flow, chosen);
             } else if (mode == BY_PACKET) {
                 // The number of paths only changes together with a new turn, so the remainder will do.
-                turn = (turn + 1) % pathCount;
+                turn = remainder(turn + 1, pathCount);
             }
         }
 
@@ -757,7 +767,7 @@ public final class FlowletSwitch {
         }
 
         boolean wouldOvertake(int flow, int size) {
-            Path path = paths[pathFor(flow)];
+            Path path = pathAt(pathFor(flow));
             return !path.dropsAt(time) && flows[flow].isOvertakenBy(time + path.ticksToArrive(time, size));
         }
     }

@@ -6,6 +6,7 @@ final class ConfigurationTest {
 
     public static void main(String[] args) {
         newObject();
+        objectsShareNothing();
         configure();
         configureMakesANewSwitch();
         setDelay();
@@ -38,6 +39,19 @@ final class ConfigurationTest {
         }
         Script.run("1: nothing written or saved", "undo() = ILLEGAL_STATE; restore(0) = ILLEGAL_STATE;"
                 + "restore(1) = ILLEGAL_STATE; runTrace() = -10; clearText() = 0");
+    }
+
+    private static void objectsShareNothing() {
+        FlowletSwitch one = new FlowletSwitch();
+        Script.run("1: one object", one, "setMode(2) = 1; setDelay(1,3) = 10; send(5,40) = 0; advance(7) = 7; save(0) = 7;"
+                + "text(\"t1\") = 2");
+        FlowletSwitch other = new FlowletSwitch();
+        Script.run("1: another object", other, "now() = 0; setMode(3) = 1; setDelay(1,4) = 10; packets(0) = 0;"
+                + "lastArrival(5) = NONE; restore(0) = ILLEGAL_STATE; clearText() = 0; text(\"f0,\") = 3; undo() = 1; undo() = 0;"
+                + "undo() = ILLEGAL_STATE; save(1) = 0");
+        Script.run("1: the one object again", one, "now() = 7; packets(0) = 1; latency(1,10) = 4; nextPath(0) = 1;"
+                + "restore(1) = ILLEGAL_STATE; text(\";\") = 3; runTrace() = 1; now() = 8; undo() = 4; setMode(2) = 2");
+        Script.run("1: the other object again", other, "now() = 0; nextPath(0) = 0; clearText() = 3; restore(1) = 0");
     }
 
     private static void configure() {

@@ -1,7 +1,7 @@
 import java.util.ArrayList;
 import java.util.List;
 
-/** The sentences of the document from "Description" to "Promise 40", without the examples. */
+/** The sentences of the document from its first line to its last, without the face and the examples. */
 final class DocumentSentences {
     private final List<String> sentences = new ArrayList<>();
     private final StringBuilder paragraph = new StringBuilder();
@@ -12,21 +12,19 @@ final class DocumentSentences {
 
     static List<String> of(String document) {
         DocumentSentences reader = new DocumentSentences();
-        int begin = document.indexOf("## Description");
-        int end = document.indexOf("## Not promised");
-        document.substring(begin, end).lines().forEach(reader::readLine);
+        document.replaceAll("(?s)```java.*?```", "").lines().forEach(reader::readLine);
         reader.endParagraph();
         return reader.sentences;
     }
 
     private void readLine(String line) {
-        boolean goesOn = !line.isBlank() && !line.matches("(## |- |`|---- |    |Examples:|\\d\\. ).*");
+        boolean goesOn = !line.isBlank() && !line.matches("(#+ |- |`|---- |    |Examples:|\\d\\. ).*");
         if (!goesOn) {
             endParagraph();
         }
         if (line.startsWith("## ")) {
             section = line.substring(3).replaceFirst(":.*", "");
-        } else if (!line.matches("(`|---- |Examples:|\\d\\. ).*")) {
+        } else if (!line.matches("(# |`|---- |Examples:|\\d\\. ).*")) {
             paragraph.append(' ').append(line.trim());
         }
         if (line.startsWith("    ")) {

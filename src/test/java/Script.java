@@ -7,7 +7,7 @@ import java.util.regex.Matcher;
 import java.util.regex.Pattern;
 
 /**
- * Runs calls written as in the document's examples, "send(0,100) = 0; now() = 0", on a new object.
+ * Runs calls written as in the document's examples, "send(0,100) = 0; now() = 0", on a new object or a given one.
  *
  * A due answer is a number, the name of a constant, or ? if any answer will do. text("f1,64;") appends
  * the characters of a text one by one and answers as the last appendCharacter does. "7x undo() = ?"
@@ -24,7 +24,11 @@ final class Script {
     }
 
     static void run(String name, String steps) {
-        for (Answer answer : answers(new FlowletSwitch(), steps)) {
+        run(name, new FlowletSwitch(), steps);
+    }
+
+    static void run(String name, FlowletSwitch object, String steps) {
+        for (Answer answer : answers(object, steps)) {
             count(name, answer);
         }
     }
